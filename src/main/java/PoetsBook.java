@@ -1674,9 +1674,11 @@ public final class PoetsBook {
                 return 0;
             }
             int best = FAR;
-            for (int next = 0; next < size; next++) {
-                if (hasBit(rest, next)) {
-                    best = Math.min(best, stepsThrough(rest, one, next));
+            // Nothing is less than 0; this loop runs most often of all.
+            for (int next = 0; next < size && best > 0; next++) {
+                if ((rest >>> next & 1) != 0) {
+                    int steps = stepsThrough(rest, one, next);
+                    best = steps < best ? steps : best;
                 }
             }
             return best;
