@@ -523,18 +523,19 @@ public final class PoetsBook {
         for (int c = 0; c < candidateCount; c++) {
             if (hasBit(set, c)) {
                 look(candidates[c]);
-                allAllowed &= candidates[c].isAllowed;
+                allAllowed = allAllowed && candidates[c].isAllowed;
             }
         }
         return allAllowed;
     }
 
     private boolean lookAtRow() {
-        int set = 0;
+        boolean allAllowed = true;
         for (int i = 0; i < rowLength; i++) {
-            set |= 1 << row[i];
+            look(candidates[row[i]]);
+            allAllowed = allAllowed && candidates[row[i]].isAllowed;
         }
-        return lookAtSet(set);
+        return allAllowed;
     }
 
     private int readRow() {
@@ -884,7 +885,10 @@ public final class PoetsBook {
                 return false;
             }
             int land = tape.number();
-            if (land < 0 || land >= LANDS || hasBit(toldLands, land)) {
+            if (land < 0 || land >= LANDS) {
+                return tape.fails(BOUNDS);
+            }
+            if (hasBit(toldLands, land)) {
                 return tape.fails(TWICE);
             }
             toldLands |= 1 << land;

@@ -153,7 +153,7 @@ public final class BookTest {
 
     private static void choices() {
         PoetsBook x = new PoetsBook();
-        Check.rules(x, "sheet 2;sheets 2;front 1;sum 10;most 2;");
+        Check.rules(x, "sheet 2;sheets 2;front 1;sum 9;most 2;");
         poem(x, 0, 0, 5, 1, "lands 0;fee 4 all;");
         poem(x, 0, 0, 6, 1, "lands 0;fee 4 all;");
         poem(x, 0, 0, 7, 1, "lands 0;fee 2 all;");
@@ -300,6 +300,9 @@ public final class BookTest {
         Check.due("28: not allowed", Check.lay(x, "AN"), PoetsBook.STATE);
         Check.due("28: none, ahead of not allowed", Check.lay(x, "NN"), PoetsBook.NONE);
         row(x, 12, 11, 10, 9, 8, 7, 6, 5, 4, 3, 2, 1, 0);
+        Check.leave(x, 13, "lands 0;");
+        Check.due("28: fourteen", Check.lay(x, "ABCDEFGHIJKLMN"), 90);
+        row(x, 0, 1, 2, 3, 4, 5, 6, 7, 8, 9, 10, 11, 12, 13);
         PoetsBook y = new PoetsBook();
         poem(y, 0, 0, 0, 1, "lands 0;");
         poem(y, 0, 0, 0, 1, "lands 0;");
@@ -373,15 +376,15 @@ public final class BookTest {
         x.book(1, 10);
         Check.due("31: not allowed", x.index(0), -1);
         PoetsBook y = new PoetsBook();
-        String[] longs = {"zzzzzzzzzzzz", "zzzzzzzzzzzy", "zzzzzzzzzzz", "zzzzzzzzzzz a"};
+        String[] longs = {"zzzzzzzzzzzz", "zzzzzzzzzzzy", "zzzzzzzzzzz", "zzzzzzzzzzz a", "b", "az", "azzzzzzzzzzz"};
         for (int p = 0; p < longs.length; p++) {
             y.poem(p, 0, 0, 0);
             Check.edition(y, p, longs[p]);
             Check.leave(y, p, "lands 0;");
             y.candidate(p);
         }
-        Check.lay(y, "ABCD");
-        int[] longDues = {2, 3, 1, 0};
+        Check.lay(y, "ABCDEFG");
+        int[] longDues = {5, 6, 4, 2, 3, 1, 0};
         for (int i = 0; i < longDues.length; i++) {
             Check.due("31: long words", y.index(i), longDues[i]);
         }

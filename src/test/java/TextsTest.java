@@ -131,6 +131,8 @@ public final class TextsTest {
     private static void faultsOfRules() {
         faultOfRules("pages 7;", 1, 0);
         faultOfRules("pag 7;", 1, 0);
+        faultOfRules("zage 7;", 1, 0);
+        faultOfRules("pagz 7;", 1, 0);
         faultOfRules("7 page;", 1, 0);
         faultOfRules(";", 1, 0);
         faultOfRules("page 7;;", 1, 7);
@@ -345,6 +347,12 @@ public final class TextsTest {
         Check.due("11: by the rules of today", x.text(0, 0, 3), 1);
         Check.rules(x, "page 8;title 4;");
         Check.due("11: by the rules of today", x.text(0, 0, 3), -1);
+        PoetsBook y = bookOf("page 6;title 0;", "a;b;c;d;e;f;g");
+        Check.due("12: ahead of text()", y.breakAt(0, 0, 0), 4);
+        Check.rules(y, "page 6;title 2;");
+        Check.due("12: by the rules of today", y.breakAt(0, 0, 0), 3);
+        Check.rules(y, "");
+        Check.due("12: by the rules of today", y.breakAt(0, 0, 0), -1);
         Check.due("12: none such", x.breakAt(1, 0, 0), -1);
         Check.due("12: none such", x.breakAt(0, 1, 0), -1);
         Check.due("12: none such", x.breakAt(-1, 0, 0), -1);
